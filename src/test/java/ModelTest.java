@@ -1,6 +1,6 @@
 /** Long runs of calls with fixed seeds, each answer compared with the plain model's. */
 public final class ModelTest {
-    private static final int RUNS = 400;
+    private static final int RUNS = 200;
     private static final int CALLS = 120;
 
     private static final Check CHECK = new Check();

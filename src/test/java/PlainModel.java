@@ -226,7 +226,7 @@ final class PlainModel {
             }
         }
         for (int first = 0; first < w * h; first++) {
-            for (int second = 0; second < w * h; second++) {
+            for (int second = first + 1; second < w * h; second++) {
                 if (winsWith(c, first, second)) {
                     return 2;
                 }

@@ -189,6 +189,7 @@ public final class PromisesTest {
         CHECK.same("pass(2): of the last one alone", tide.pass(2), 2);
         CHECK.same("pass: between both", Maps.read(tide), "11.22/11.22/11.22");
         CHECK.same("pass(40) of a still map", tide.pass(40), 0);
+        CHECK.same("pass(1), only the first cell", Maps.painted(2, "21", "11").pass(1), 1);
         CHECK.same("pass: waves() of a still map too", tide.waves(), 43);
         ColourTide turning = Maps.painted(2, "12", "21");
         CHECK.same("pass(40) of a turning map", turning.pass(40), 4);
@@ -333,6 +334,7 @@ public final class PromisesTest {
         CHECK.same("greatestRegion(1)", tide.greatestRegion(1), 4);
         CHECK.same("greatestRegion(2)", tide.greatestRegion(2), 6);
         CHECK.same("greatestRegion(4)", tide.greatestRegion(4), 0);
+        CHECK.same("greatestRegion of the first cell", Maps.painted(2, "31", "11").greatestRegion(3), 1);
         ColourTide first = Maps.painted(2, "333..", "....3");
         CHECK.same("greatestRegion, the first one", first.greatestRegion(3), 3);
         refuses("greatestRegion", tide, OUT, NO_COLOUR, tide::greatestRegion);
@@ -374,6 +376,7 @@ public final class PromisesTest {
     private static void winner() {
         CHECK.same("winner() of a bare map", new ColourTide().winner(), 0);
         CHECK.same("winner()", Maps.painted(2, "333", "333").winner(), 3);
+        CHECK.same("winner() of 1", Maps.painted(2, "11", "11", "11").winner(), 1);
         CHECK.same("winner() of 4", Maps.painted(2, "44", "44").winner(), 4);
         CHECK.same("winner() with a bare cell", Maps.painted(2, "11", "1.").winner(), 0);
         CHECK.same("winner() of two", Maps.painted(2, "11", "12").winner(), 0);
@@ -392,6 +395,25 @@ public final class PromisesTest {
         tide.pass(1);
         CHECK.same("wavesUntilStill() now", tide.wavesUntilStill(), 0);
         CHECK.same("wavesUntilStill() of a turning map", Maps.painted(2, "12", "21").wavesUntilStill(), -1);
+        wavesUntilStillOfALongRun();
+    }
+
+    // The map was found by a search: it is still behind 42 waves, just beyond the edge of 40.
+    private static void wavesUntilStillOfALongRun() {
+        ColourTide tide = Maps.painted(1, "23312", "33132", "31203", "10010", "43212");
+        int[][] stubborn = {{0, 0}, {4, 0}, {2, 2}, {2, 4}};
+        for (int[] cell : stubborn) {
+            tide.turnStubborn(cell[0], cell[1]);
+        }
+        CHECK.same("wavesUntilStill(), 42 are left", tide.wavesUntilStill(), -1);
+        tide.pass(1);
+        CHECK.same("wavesUntilStill(), 41 are left", tide.wavesUntilStill(), -1);
+        tide.pass(1);
+        CHECK.same("wavesUntilStill(), 40 are left", tide.wavesUntilStill(), 40);
+        tide.pass(39);
+        CHECK.same("isStill() behind 41 waves of 42", tide.isStill(), false);
+        tide.pass(1);
+        CHECK.same("isStill() behind 42 waves", tide.isStill(), true);
     }
 
     private static void cellsAfter() {
@@ -425,8 +447,11 @@ public final class PromisesTest {
         CHECK.same("wins of a winner, behind 0 waves", Maps.painted(4, "22", "22").wins(2), true);
         CHECK.same("wins of another", Maps.painted(4, "22", "22").wins(1), false);
         CHECK.same("wins on a bare map", new ColourTide().wins(1), false);
-        ColourTide round = Maps.painted(1, "1....", "1....", "1....", "11111", "11111");
-        CHECK.same("wins(1) round a corner", round.wins(1), true);
+        ColourTide late = Maps.painted(1, "12222", "21211", "21112", "12222");
+        CHECK.same("wins(1), just behind 9 waves: all cells", late.cellsAfter(9, 1), 20);
+        CHECK.same("wins(1), just behind 9 waves", late.wins(1), false);
+        late.pass(1);
+        CHECK.same("wins(1), a wave later", late.wins(1), true);
         refuses("wins", tide, OUT, NO_COLOUR, tide::wins);
     }
 
@@ -442,6 +467,8 @@ public final class PromisesTest {
         CHECK.same("fewestSeeds, two are too few", new ColourTide().fewestSeeds(3), -1);
         ColourTide last = Maps.painted(4, "333", "333", "332");
         CHECK.same("fewestSeeds, the last cell", last.fewestSeeds(3), 1);
+        CHECK.same("fewestSeeds, the first cell", Maps.painted(4, "233", "333").fewestSeeds(3), 1);
+        CHECK.same("fewestSeeds, first and last cell", Maps.painted(4, "233", "332").fewestSeeds(3), 2);
         last.turnStubborn(2, 2);
         CHECK.same("fewestSeeds, a stubborn cell", last.fewestSeeds(3), 1);
         last.paint(1, 2, 1);
