@@ -528,7 +528,7 @@ public final class ColourTide {
         }
 
         int countBorders() {
-            int pairs = countPairs(board & ~sets[BARE]);
+            int pairs = countPairs(board & ~cellsWith(BARE));
             for (int colour = 1; colour < SETS; colour++) {
                 pairs -= countPairs(sets[colour]);
             }

@@ -41,6 +41,15 @@ final class Check {
         same("digest() behind " + what, tide.digest(), before);
     }
 
+    /** The call throws nothing. */
+    void takes(String what, Runnable call) {
+        try {
+            call.run();
+        } catch (RuntimeException e) {
+            tell(what + " threw " + e.getClass() + ", due is an answer");
+        }
+    }
+
     /** Ends the program, with exit code 1 if an answer was wrong. */
     void end() {
         System.out.println(wrong == 0 ? "all answers are as due" : wrong + " answers are not as due");
