@@ -101,7 +101,6 @@ public final class ColourTide {
         return map.colourOf(cell(x, y));
     }
 
-    /** Whether a cell is stubborn. */
     public boolean isStubborn(int x, int y) throws IndexOutOfBoundsException {
         if (!isOnMap(x, y)) {
             throw new IndexOutOfBoundsException("no such cell");
@@ -136,17 +135,14 @@ public final class ColourTide {
 
     // ---- the whole map
 
-    /** How many cells the map is wide. */
     public int width() {
         return width;
     }
 
-    /** How many cells the map is high. */
     public int height() {
         return height;
     }
 
-    /** The need. */
     public int need() {
         return map.need;
     }
@@ -156,7 +152,6 @@ public final class ColourTide {
         return waves;
     }
 
-    /** How many cells are stubborn. */
     public int stubbornCells() {
         return Integer.bitCount(map.stubborn);
     }

@@ -1,3 +1,6 @@
+import java.util.function.Consumer;
+import java.util.function.Supplier;
+
 /**
  * Each "Throws .." of the document: just inside and just outside of each bound, what a refused call
  * leaves unchanged, and which exception comes first where two apply.
@@ -32,6 +35,7 @@ public final class BoundsTest {
         newMapOfEachSize();
         eachCellOfEachMap();
         cellsBesideTheFirstMap();
+        cellsThatAMapHasLost();
         paintWithEachColour();
         neighboursWithEachColour();
         callsWithAColourOrBare();
@@ -119,38 +123,47 @@ public final class BoundsTest {
     private static void eachCellOfEachMap() {
         for (int w = 2; w <= 5; w++) {
             for (int h = 2; h <= 5; h++) {
-                cellsOfAMap(motley(w, h));
+                int width = w;
+                int height = h;
+                cellsOfAMap(() -> motley(width, height));
             }
         }
-        // A map that was greater before: the cells it has lost are there no more.
-        ColourTide shrunk = motley(5, 5);
-        shrunk.newMap(3, 2);
-        paintMotley(shrunk);
-        cellsOfAMap(shrunk);
     }
 
     private static void cellsBesideTheFirstMap() {
-        ColourTide tide = new ColourTide();
-        paintMotley(tide);
-        cellsOfAMap(tide);
+        cellsOfAMap(() -> {
+            ColourTide tide = new ColourTide();
+            paintMotley(tide);
+            return tide;
+        });
     }
 
-    private static void cellsOfAMap(ColourTide tide) {
-        cells("paint", tide, (t, x, y) -> t.paint(x, y, 4));
-        cells("paint bare", tide, (t, x, y) -> t.paint(x, y, 0));
-        paintMotley(tide);
-        cells("turnStubborn", tide, ColourTide::turnStubborn);
-        cells("colourAt", tide, ColourTide::colourAt);
-        cells("isStubborn", tide, ColourTide::isStubborn);
-        cells("neighboursWith", tide, (t, x, y) -> t.neighboursWith(x, y, 0));
-        cells("nextColour", tide, ColourTide::nextColour);
-        cells("regionSize", tide, ColourTide::regionSize);
+    private static void cellsThatAMapHasLost() {
+        cellsOfAMap(() -> {
+            ColourTide tide = motley(5, 5);
+            tide.newMap(3, 2);
+            paintMotley(tide);
+            return tide;
+        });
     }
 
-    private static void cells(String what, ColourTide tide, CellCall call) {
-        int w = tide.width();
-        int h = tide.height();
+    private static void cellsOfAMap(Supplier<ColourTide> maps) {
+        cells("paint", maps, (t, x, y) -> t.paint(x, y, 4));
+        cells("paint bare", maps, (t, x, y) -> t.paint(x, y, 0));
+        cells("turnStubborn", maps, ColourTide::turnStubborn);
+        cells("colourAt", maps, ColourTide::colourAt);
+        cells("isStubborn", maps, ColourTide::isStubborn);
+        cells("neighboursWith", maps, (t, x, y) -> t.neighboursWith(x, y, 0));
+        cells("nextColour", maps, ColourTide::nextColour);
+        cells("regionSize", maps, ColourTide::regionSize);
+    }
+
+    private static void cells(String what, Supplier<ColourTide> maps, CellCall call) {
         for (int x : from(-2, 7)) {
+            // Another map for each column, so that none is used for more than 512 calls.
+            ColourTide tide = maps.get();
+            int w = tide.width();
+            int h = tide.height();
             for (int y : from(-2, 7)) {
                 boolean there = within(x, 0, w - 1) && within(y, 0, h - 1);
                 judge(what + " of (" + x + ", " + y + ") on " + w + " by " + h, tide, there ? null : OUT,
@@ -224,8 +237,8 @@ public final class BoundsTest {
     }
 
     private static void pairs(String what, int[] firsts, int[] seconds, TwoNumbers call, Due due) {
-        ColourTide tide = motley(4, 3);
         for (int first : firsts) {
+            ColourTide tide = motley(4, 3);
             for (int second : seconds) {
                 judge(what + "(" + first + ", " + second + ")", tide, due.of(first, second),
                         () -> call.on(tide, first, second));
@@ -246,60 +259,59 @@ public final class BoundsTest {
     // ---- "A method that throws an exception changes nothing."
 
     private static void refusedCallsLeaveAllAnswers() {
-        ColourTide tide = motley(5, 4);
-        String before = Answers.of(tide);
-        leaves("newMap", tide, before, ILLEGAL, () -> tide.newMap(5, 1), () -> tide.newMap(6, 4));
-        leaves("paint", tide, before, OUT, () -> tide.paint(0, 0, 5), () -> tide.paint(5, 0, 1));
-        leaves("turnStubborn", tide, before, OUT, () -> tide.turnStubborn(0, 4), () -> tide.turnStubborn(-1, 1));
-        leaves("setNeed", tide, before, ILLEGAL, () -> tide.setNeed(0), () -> tide.setNeed(5));
-        leaves("pass", tide, before, ILLEGAL, () -> tide.pass(0), () -> tide.pass(41));
-        leaves("colourAt", tide, before, OUT, () -> tide.colourAt(5, 3), () -> tide.colourAt(0, -1));
-        leaves("isStubborn", tide, before, OUT, () -> tide.isStubborn(5, 3), () -> tide.isStubborn(0, -1));
-        leaves("neighboursWith", tide, before, OUT, () -> tide.neighboursWith(1, 1, 5),
-                () -> tide.neighboursWith(4, 4, 1));
-        leaves("nextColour", tide, before, OUT, () -> tide.nextColour(5, 3), () -> tide.nextColour(0, -1));
-        leaves("regionSize", tide, before, OUT, () -> tide.regionSize(5, 3), () -> tide.regionSize(0, -1));
-        leaves("cellsOf", tide, before, OUT, () -> tide.cellsOf(-1), () -> tide.cellsOf(5));
-        leaves("regionsOf", tide, before, OUT, () -> tide.regionsOf(0), () -> tide.regionsOf(5));
-        leaves("greatestRegion", tide, before, OUT, () -> tide.greatestRegion(0), () -> tide.greatestRegion(5));
-        leaves("cellsAfter, waves", tide, before, ILLEGAL, () -> tide.cellsAfter(0, 1), () -> tide.cellsAfter(41, 1));
-        leaves("cellsAfter, colour", tide, before, OUT, () -> tide.cellsAfter(1, -1), () -> tide.cellsAfter(40, 5));
-        leaves("wins", tide, before, OUT, () -> tide.wins(0), () -> tide.wins(5));
-        leaves("fewestSeeds", tide, before, OUT, () -> tide.fewestSeeds(0), () -> tide.fewestSeeds(5));
-        leaves("bestCell, colour", tide, before, OUT, () -> tide.bestCell(0, 1), () -> tide.bestCell(5, 24));
-        leaves("bestCell, waves", tide, before, ILLEGAL, () -> tide.bestCell(1, 0), () -> tide.bestCell(4, 25));
-        leaves("share", tide, before, OUT, () -> tide.share(-1), () -> tide.share(5));
+        leaves("newMap", ILLEGAL, t -> t.newMap(5, 1), t -> t.newMap(6, 4));
+        leaves("paint", OUT, t -> t.paint(0, 0, 5), t -> t.paint(5, 0, 1));
+        leaves("turnStubborn", OUT, t -> t.turnStubborn(0, 4), t -> t.turnStubborn(-1, 1));
+        leaves("setNeed", ILLEGAL, t -> t.setNeed(0), t -> t.setNeed(5));
+        leaves("pass", ILLEGAL, t -> t.pass(0), t -> t.pass(41));
+        leaves("colourAt", OUT, t -> t.colourAt(5, 3), t -> t.colourAt(0, -1));
+        leaves("isStubborn", OUT, t -> t.isStubborn(5, 3), t -> t.isStubborn(0, -1));
+        leaves("neighboursWith", OUT, t -> t.neighboursWith(1, 1, 5), t -> t.neighboursWith(4, 4, 1));
+        leaves("nextColour", OUT, t -> t.nextColour(5, 3), t -> t.nextColour(0, -1));
+        leaves("regionSize", OUT, t -> t.regionSize(5, 3), t -> t.regionSize(0, -1));
+        leaves("cellsOf", OUT, t -> t.cellsOf(-1), t -> t.cellsOf(5));
+        leaves("regionsOf", OUT, t -> t.regionsOf(0), t -> t.regionsOf(5));
+        leaves("greatestRegion", OUT, t -> t.greatestRegion(0), t -> t.greatestRegion(5));
+        leaves("cellsAfter, waves", ILLEGAL, t -> t.cellsAfter(0, 1), t -> t.cellsAfter(41, 1));
+        leaves("cellsAfter, colour", OUT, t -> t.cellsAfter(1, -1), t -> t.cellsAfter(40, 5));
+        leaves("wins", OUT, t -> t.wins(0), t -> t.wins(5));
+        leaves("fewestSeeds", OUT, t -> t.fewestSeeds(0), t -> t.fewestSeeds(5));
+        leaves("bestCell, colour", OUT, t -> t.bestCell(0, 1), t -> t.bestCell(5, 24));
+        leaves("bestCell, waves", ILLEGAL, t -> t.bestCell(1, 0), t -> t.bestCell(4, 25));
+        leaves("share", OUT, t -> t.share(-1), t -> t.share(5));
     }
 
-    private static void leaves(String what, ColourTide tide, String before, Class<? extends Exception> kind,
-            Runnable... calls) {
-        for (Runnable call : calls) {
-            CHECK.refuses(what, tide, kind, call);
-            CHECK.same("all answers behind a refused " + what, Answers.of(tide), before);
+    /** Behind the refused call all answers are those of an alike map that was not asked for it. */
+    @SafeVarargs
+    private static void leaves(String what, Class<? extends Exception> kind, Consumer<ColourTide>... calls) {
+        for (Consumer<ColourTide> call : calls) {
+            ColourTide tide = motley(5, 4);
+            CHECK.refuses(what, tide, kind, () -> call.accept(tide));
+            CHECK.same("all answers behind a refused " + what, Answers.of(tide), Answers.of(motley(5, 4)));
         }
     }
 
     // ---- "(nothing is changed)", and the calls that only tell something
 
     private static void askingChangesNothing() {
-        ColourTide tide = motley(5, 4);
-        String before = Answers.of(tide);
-        asks("nextColour", tide, before, () -> tide.nextColour(1, 1));
-        asks("wavesUntilStill", tide, before, tide::wavesUntilStill);
-        asks("cellsAfter", tide, before, () -> tide.cellsAfter(40, 0), () -> tide.cellsAfter(1, 2));
-        asks("wins", tide, before, () -> tide.wins(1), () -> tide.wins(4));
-        asks("fewestSeeds", tide, before, () -> tide.fewestSeeds(1), () -> tide.fewestSeeds(4));
-        asks("bestCell", tide, before, () -> tide.bestCell(1, 24), () -> tide.bestCell(3, 1));
-        asks("the tellers", tide, before, () -> tide.colourAt(0, 0), () -> tide.isStubborn(0, 0),
-                () -> tide.neighboursWith(0, 0, 1), () -> tide.regionSize(0, 0), () -> tide.cellsOf(0),
-                () -> tide.regionsOf(1), () -> tide.greatestRegion(1), tide::borders, tide::leader,
-                tide::isStill, tide::winner, tide::digest, () -> tide.share(0));
+        asks("nextColour", t -> t.nextColour(1, 1));
+        asks("wavesUntilStill", ColourTide::wavesUntilStill);
+        asks("cellsAfter", t -> t.cellsAfter(40, 0), t -> t.cellsAfter(1, 2));
+        asks("wins", t -> t.wins(1), t -> t.wins(4));
+        asks("fewestSeeds", t -> t.fewestSeeds(1), t -> t.fewestSeeds(4));
+        asks("bestCell", t -> t.bestCell(1, 24), t -> t.bestCell(3, 1));
+        asks("the tellers", t -> t.colourAt(0, 0), t -> t.isStubborn(0, 0), t -> t.neighboursWith(0, 0, 1),
+                t -> t.regionSize(0, 0), t -> t.cellsOf(0), t -> t.regionsOf(1), t -> t.greatestRegion(1),
+                ColourTide::borders, ColourTide::leader, ColourTide::isStill, ColourTide::winner,
+                ColourTide::digest, t -> t.share(0));
     }
 
-    private static void asks(String what, ColourTide tide, String before, Runnable... calls) {
-        for (Runnable call : calls) {
-            CHECK.takes(what, call);
-            CHECK.same("all answers behind " + what, Answers.of(tide), before);
+    @SafeVarargs
+    private static void asks(String what, Consumer<ColourTide>... calls) {
+        for (Consumer<ColourTide> call : calls) {
+            ColourTide tide = motley(5, 4);
+            CHECK.takes(what, () -> call.accept(tide));
+            CHECK.same("all answers behind " + what, Answers.of(tide), Answers.of(motley(5, 4)));
         }
     }
 }

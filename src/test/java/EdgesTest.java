@@ -361,7 +361,11 @@ public final class EdgesTest {
     private static void bordersOfColoursAlone() {
         CHECK.same("borders() of a bare map", new ColourTide().borders(), 0);
         CHECK.same("borders() with bare cells", Maps.painted(2, "1.2", ".3.").borders(), 0);
-        CHECK.same("borders() of one colour", Maps.painted(2, "11", "11").borders(), 0);
+        for (int colour = 1; colour <= 4; colour++) {
+            ColourTide tide = new ColourTide();
+            fill(tide, colour);
+            CHECK.same("borders() where all are " + colour, tide.borders(), 0);
+        }
         CHECK.same("borders() aslant", Maps.painted(2, "1.", ".2").borders(), 0);
         CHECK.same("borders() beside", Maps.painted(2, "12", "..").borders(), 1);
         CHECK.same("borders() below", Maps.painted(2, ".1", ".2").borders(), 1);
@@ -611,19 +615,28 @@ public final class EdgesTest {
         boolean below = false;
         boolean above = false;
         for (int i = 0; i < 16; i++) {
-            ColourTide tide = new ColourTide();
-            tide.newMap(2 + i % 4, 2 + i / 4);
-            for (int cell = 0; cell < tide.width() * tide.height(); cell++) {
-                tide.paint(cell % tide.width(), cell / tide.width(), (cell * 7 + i) % 5);
-                if (cell % 3 == 0) {
-                    turnStubborn(tide, cell % tide.width(), cell / tide.width());
-                }
+            int w = 2 + i % 4;
+            int h = 2 + i / 4;
+            for (int painted = 1; painted <= w * h; painted++) {
+                ColourTide tide = paintedAndStubborn(w, h, painted, i);
                 CHECK.same("digest()", tide.digest(), wrapped(tide));
                 below |= tide.digest() < 0;
                 above |= tide.digest() > 0;
             }
         }
         CHECK.same("digests below and above 0", below && above, true);
+    }
+
+    private static ColourTide paintedAndStubborn(int w, int h, int cells, int shift) {
+        ColourTide tide = new ColourTide();
+        tide.newMap(w, h);
+        for (int cell = 0; cell < cells; cell++) {
+            tide.paint(cell % w, cell / w, (cell * 7 + shift) % 5);
+            if (cell % 3 == 0) {
+                turnStubborn(tide, cell % w, cell / w);
+            }
+        }
+        return tide;
     }
 
     private static void digestTellsNeedAndWaves() {

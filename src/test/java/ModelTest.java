@@ -1,7 +1,8 @@
 /** Long runs of calls with fixed seeds, each answer compared with the plain model's. */
 public final class ModelTest {
-    private static final int RUNS = 200;
-    private static final int CALLS = 120;
+    private static final int RUNS = 400;
+    private static final int CALLS_OF_AN_OBJECT = 512;
+    private static final int CALLS_OF_ASKING = 23;
 
     private static final Check CHECK = new Check();
     private static long state;
@@ -23,12 +24,15 @@ public final class ModelTest {
     private static void compare(String run, boolean fewColours) {
         ColourTide tide = new ColourTide();
         PlainModel model = new PlainModel();
-        for (int call = 0; call < CALLS; call++) {
-            String what = run + ", call " + call;
+        int calls = 0;
+        while (calls + CALLS_OF_ASKING + 1 <= CALLS_OF_AN_OBJECT) {
+            String what = run + ", behind " + calls + " calls";
             if (draw(10) < 7) {
                 change(what, tide, model, fewColours ? 2 : 4);
+                calls += 2;
             } else {
                 ask(what, tide, model);
+                calls += CALLS_OF_ASKING + 1;
             }
             CHECK.same(what + ": digest()", tide.digest(), model.digest());
         }

@@ -3,6 +3,8 @@
  * It knows nothing of exceptions: it is asked only what the document answers.
  */
 final class PlainModel {
+    private static final int[][] STEPS = {{-1, 0}, {1, 0}, {0, -1}, {0, 1}};
+
     int w = 4;
     int h = 4;
     int need = 2;
@@ -37,9 +39,8 @@ final class PlainModel {
     }
 
     int neighboursWith(int x, int y, int c) {
-        int[][] steps = {{-1, 0}, {1, 0}, {0, -1}, {0, 1}};
         int count = 0;
-        for (int[] step : steps) {
+        for (int[] step : STEPS) {
             int nx = x + step[0];
             int ny = y + step[1];
             if (has(nx, ny) && colour[ny][nx] == c) {
